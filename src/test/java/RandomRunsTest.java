@@ -1,0 +1,238 @@
+import java.util.Random;
+
+/** Long runs of drawn calls, the class and the slow reading of the document side by side. */
+public final class RandomRunsTest {
+    private static final int RUNS = 900;
+    private static final int CALLS = 512;
+    private static final String[] NAMES = {"write", "wipe", "fault", "lay", "sound", "wooer", "word", "lesson", "pass",
+        "mend", "change", "undo", "behind", "made", "best", "mends", "two", "tests", "other", "hear", "forget", "which",
+        "kinds", "hail", "year", "keep", "back", "count"};
+    /** How often each call is drawn, in the order of the names. */
+    private static final int[] OFTEN = {3, 0, 1, 1, 1, 8, 12, 12, 8, 8, 5, 6, 6, 3, 1, 2, 2, 2, 2, 8, 1, 4, 4, 1, 3, 2,
+        2, 8};
+    private static final int[] ODD = {-1, -2, -3, -4, 5, 8, 9, 10, 11, 61, 200, 256, 1 << 16, 999999999,
+        Integer.MAX_VALUE, Integer.MIN_VALUE, Integer.MIN_VALUE + 1, Integer.MAX_VALUE - 1};
+
+    private final Check check = new Check();
+    private final Random random;
+    private LastTongue quick;
+    private SlowTongue slow;
+
+    private RandomRunsTest(long seed) {
+        random = new Random(seed);
+    }
+
+    public static void main(String[] args) {
+        RandomRunsTest test = new RandomRunsTest(20261119L);
+        for (int run = 0; run < RUNS; run++) {
+            test.run(run);
+        }
+        test.check.close("RandomRunsTest");
+    }
+
+    private void run(int run) {
+        quick = new LastTongue();
+        slow = new SlowTongue();
+        int calls = 0;
+        while (calls < CALLS) {
+            if (run % 7 != 0 && (calls == 0 || random.nextInt(150) == 0)) {
+                calls += layAnew(run);
+            } else {
+                drawnCall(run);
+                calls++;
+            }
+        }
+    }
+
+    private int layAnew(int run) {
+        String text = random.nextInt(4) == 0 ? spoilt(drawnText()) : drawnText();
+        call(run, "wipe");
+        for (int i = 0; i < text.length(); i++) {
+            call(run, "write", text.charAt(i));
+        }
+        call(run, "fault");
+        call(run, "lay");
+        return text.length() + 3;
+    }
+
+    private String drawnText() {
+        StringBuilder text = new StringBuilder();
+        int words = 1 + random.nextInt(8);
+        if (random.nextInt(5) == 0) {
+            text.append("t").append(random.nextInt(1000)).append(";");
+        }
+        text.append("t");
+        StringBuilder sounds = new StringBuilder();
+        for (int w = 0; w < words; w++) {
+            sounds.append(random.nextInt(10));
+        }
+        text.append(sounds).append(";");
+        int wooers = 1 + random.nextInt(5);
+        for (int p = 0; p < wooers; p++) {
+            if (random.nextInt(6) == 0) {
+                text.append("s").append(1 + random.nextInt(8)).append(";");
+            }
+            int memory = 1 + random.nextInt(random.nextInt(3) == 0 ? 30 : 6);
+            text.append(random.nextInt(9) == 0 ? "w0" : "w").append(random.nextInt(4)).append(",");
+            text.append(memory < 10 && random.nextInt(5) == 0 ? "0" : "").append(memory).append(",");
+            for (int w = 0; w < words; w++) {
+                int lot = random.nextInt(5);
+                text.append(lot < 2 ? "-" : lot < 4 ? "" + sounds.charAt(w) : "" + random.nextInt(10));
+            }
+            text.append(";");
+        }
+        if (random.nextInt(3) != 0) {
+            text.append(random.nextInt(5) == 0 ? "s0" : "s").append(1 + random.nextInt(words)).append(";");
+        }
+        return text.toString();
+    }
+
+    private String spoilt(String text) {
+        StringBuilder letters = new StringBuilder(text);
+        int place = random.nextInt(letters.length());
+        String signs = "tws,;-0123456789 ";
+        switch (random.nextInt(4)) {
+            case 0: letters.deleteCharAt(place); break;
+            case 1: letters.insert(place, signs.charAt(random.nextInt(signs.length()))); break;
+            case 2: letters.setCharAt(place, signs.charAt(random.nextInt(signs.length()))); break;
+            default: letters.append(new String[] {"t1;", "w0,3,-;", "s9;", "s", "w4,1,"}[random.nextInt(5)]); break;
+        }
+        return letters.toString();
+    }
+
+    private void drawnCall(int run) {
+        int sum = 0;
+        for (int often : OFTEN) {
+            sum += often;
+        }
+        int lot = random.nextInt(sum);
+        int chosen = 0;
+        while (lot >= OFTEN[chosen]) {
+            lot -= OFTEN[chosen];
+            chosen++;
+        }
+        call(run, NAMES[chosen], arguments(NAMES[chosen]));
+    }
+
+    private int[] arguments(String name) {
+        switch (name) {
+            case "write": return drawn(32, 126);
+            case "sound": return drawn(0, words());
+            case "wooer": return drawn(0, wooers(), 0, 4);
+            case "word": return drawn(0, wooers(), 0, words(), 0, 1);
+            case "lesson": case "mend": return drawn(0, wooers(), 0, words());
+            case "pass": return random.nextInt(3) == 0 ? drawn(1, 24) : drawn(1, 3);
+            case "change": return drawn(0, wooers(), 0, wooers());
+            case "behind": return drawn(0, 40, 0, wooers(), -1, words());
+            case "made": case "kinds": return drawn(0, wooers());
+            case "best": return drawn(0, wooers(), 1, 3, -1, 2);
+            case "mends": case "two": case "tests": return drawn(0, 1);
+            case "hear": return likelyHearing();
+            case "hail": return drawn(0, wooers(), 0, 8, 0, 10, 0, 1);
+            case "year": return drawn(0, 9999, 1, 60, 0, 1);
+            case "count": return drawn(0, 10);
+            default: return new int[0];
+        }
+    }
+
+    /** Mostly something that is so of somebody, else nobody would ever be left. */
+    private int[] likelyHearing() {
+        int[] drawn = drawn(0, words(), 0, 10, 0, 20);
+        if (random.nextInt(4) != 0) {
+            int way = slow.behind(drawn[2], random.nextInt(wooers() + 1), drawn[0]);
+            drawn[1] = way == SlowTongue.NONE ? 10 : way;
+        }
+        return drawn;
+    }
+
+    private int words() {
+        return slow.count(0) - 1;
+    }
+
+    private int wooers() {
+        return slow.count(1) - 1;
+    }
+
+    private int[] drawn(int... bounds) {
+        int[] drawn = new int[bounds.length / 2];
+        for (int i = 0; i < drawn.length; i++) {
+            drawn[i] = bounds[2 * i] + random.nextInt(bounds[2 * i + 1] - bounds[2 * i] + 1);
+        }
+        if (random.nextInt(25) == 0) {
+            drawn[random.nextInt(drawn.length)] = ODD[random.nextInt(ODD.length)];
+        }
+        return drawn;
+    }
+
+    private void call(int run, String name, int... a) {
+        int got = ofClass(name, a);
+        int want = ofSlow(name, a);
+        check.due("run " + run + ": " + name + java.util.Arrays.toString(a), got, want);
+    }
+
+    private int ofClass(String name, int[] a) {
+        switch (name) {
+            case "write": return quick.write(a[0]);
+            case "wipe": return quick.wipe();
+            case "fault": return quick.fault();
+            case "lay": return quick.lay();
+            case "sound": return quick.sound(a[0]);
+            case "wooer": return quick.wooer(a[0], a[1]);
+            case "word": return quick.word(a[0], a[1], a[2]);
+            case "lesson": return quick.lesson(a[0], a[1]);
+            case "pass": return quick.pass(a[0]);
+            case "mend": return quick.mend(a[0], a[1]);
+            case "change": return quick.change(a[0], a[1]);
+            case "undo": return quick.undo();
+            case "behind": return quick.behind(a[0], a[1], a[2]);
+            case "made": return quick.made(a[0]);
+            case "best": return quick.best(a[0], a[1], a[2]);
+            case "mends": return quick.mends(a[0]);
+            case "two": return quick.two(a[0]);
+            case "tests": return quick.tests(a[0]);
+            case "other": return quick.other();
+            case "hear": return quick.hear(a[0], a[1], a[2]);
+            case "forget": return quick.forget();
+            case "which": return quick.which();
+            case "kinds": return quick.kinds(a[0]);
+            case "hail": return quick.hail(a[0], a[1], a[2], a[3]);
+            case "year": return quick.year(a[0], a[1], a[2]);
+            case "keep": return quick.keep();
+            case "back": return quick.back();
+            default: return quick.count(a[0]);
+        }
+    }
+
+    private int ofSlow(String name, int[] a) {
+        switch (name) {
+            case "write": return slow.write(a[0]);
+            case "wipe": return slow.wipe();
+            case "fault": return slow.fault();
+            case "lay": return slow.lay();
+            case "sound": return slow.sound(a[0]);
+            case "wooer": return slow.wooer(a[0], a[1]);
+            case "word": return slow.word(a[0], a[1], a[2]);
+            case "lesson": return slow.lesson(a[0], a[1]);
+            case "pass": return slow.pass(a[0]);
+            case "mend": return slow.mend(a[0], a[1]);
+            case "change": return slow.change(a[0], a[1]);
+            case "undo": return slow.undo();
+            case "behind": return slow.behind(a[0], a[1], a[2]);
+            case "made": return slow.made(a[0]);
+            case "best": return slow.best(a[0], a[1], a[2]);
+            case "mends": return slow.mends(a[0]);
+            case "two": return slow.two(a[0]);
+            case "tests": return slow.tests(a[0]);
+            case "other": return slow.other();
+            case "hear": return slow.hear(a[0], a[1], a[2]);
+            case "forget": return slow.forget();
+            case "which": return slow.which();
+            case "kinds": return slow.kinds(a[0]);
+            case "hail": return slow.hail(a[0], a[1], a[2], a[3]);
+            case "year": return slow.year(a[0], a[1], a[2]);
+            case "keep": return slow.keep();
+            case "back": return slow.back();
+            default: return slow.count(a[0]);
+        }
+    }
+}
