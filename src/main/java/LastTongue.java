@@ -912,7 +912,6 @@ public final class LastTongue {
             if (pastTongue) {
                 return false;
             }
-            table.words = 0;
             for (int w = 0; w <= WORDS; w++) {
                 int sign = next();
                 if (sign == ';') {
