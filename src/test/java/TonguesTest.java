@@ -198,6 +198,9 @@ public final class TonguesTest {
             check.due("promise 5: less, pass(1)", x.pass(1), 2 * i);
             check.due("promise 5: less, year()", x.year(3, 1, 1), 2 * i);
         }
+        LastTongue x = Check.laid("t12345678;" + row + row + row + row + row + "s1;");
+        Check.lay(x, "t9;w0,9,0;w0,9,9;s1;");
+        check.due("promise 5: less, other() of one and one", x.other(), 0);
     }
 
     private static void sound() {
