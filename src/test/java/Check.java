@@ -1,7 +1,15 @@
+import java.util.Arrays;
+
 /** What the tests have in common: counting, and telling what is not as due. */
 final class Check {
     private int right = 0;
     private int wrong = 0;
+    private String told = "";
+
+    /** The sentence of the document that all that follows is held against. */
+    void sentence(String words) {
+        told = "\"" + words + "\": ";
+    }
 
     void due(String what, long got, long want) {
         if (got == want) {
@@ -9,11 +17,23 @@ final class Check {
             return;
         }
         wrong++;
-        System.out.println(what + " answered " + got + ", due is " + want);
+        System.out.println(told + what + " answered " + got + ", due is " + want);
     }
 
     void holds(String what, boolean so) {
         due(what, so ? 1 : 0, 1);
+    }
+
+    /** A call of the face by its name; tells where it stands if it does not answer what is due. */
+    void answers(LastTongue x, int want, String name, int... numbers) {
+        int got = Picture.call(x, name, numbers);
+        due(name + Arrays.toString(numbers) + (got == want ? "" : " of " + Picture.look(x)), got, want);
+    }
+
+    void bad(LastTongue x, String name, int[]... calls) {
+        for (int[] numbers : calls) {
+            answers(x, LastTongue.BAD, name, numbers);
+        }
     }
 
     /** Writes the text on a clean page and lays it: what lay() answers. */
@@ -36,7 +56,7 @@ final class Check {
         return x;
     }
 
-    private static void write(LastTongue x, String text) {
+    static void write(LastTongue x, String text) {
         x.wipe();
         for (int i = 0; i < text.length(); i++) {
             x.write(text.charAt(i));
@@ -75,7 +95,7 @@ final class Check {
             return;
         }
         wrong++;
-        System.out.println(what + ": " + got + ", due is " + want);
+        System.out.println(told + what + ": " + got + ", due is " + want);
     }
 
     /** The closing line; ends the program with 1 if anything was wrong. */

@@ -68,12 +68,13 @@ public final class FaceTest {
 
     /** All numbers at the edges in all places; only what the face says may come back. */
     private static void oddNumbers() throws Exception {
-        LastTongue x = new LastTongue();
         for (Method method : LastTongue.class.getDeclaredMethods()) {
             if (Modifier.isPublic(method.getModifiers())) {
                 int places = method.getParameterCount();
                 int calls = (int) Math.pow(ODD.length, places);
+                LastTongue x = new LastTongue();
                 for (int call = 0; call < Math.min(calls, 4000); call++) {
+                    x = call % 512 == 0 ? new LastTongue() : x;
                     Object[] numbers = new Object[places];
                     for (int i = 0, rest = call; i < places; i++, rest /= ODD.length) {
                         numbers[i] = ODD[rest % ODD.length];

@@ -4,6 +4,8 @@ import java.util.Random;
 public final class RandomRunsTest {
     private static final int RUNS = 900;
     private static final int CALLS = 512;
+    /** Calls that a text laid takes beside its own letters: wipe, fault, lay, and letters that spoil it. */
+    private static final int MOST_AROUND = 3 + 6;
     private static final String[] NAMES = {"write", "wipe", "fault", "lay", "sound", "wooer", "word", "lesson", "pass",
         "mend", "change", "undo", "behind", "made", "best", "mends", "two", "tests", "other", "hear", "forget", "which",
         "kinds", "hail", "year", "keep", "back", "count"};
@@ -35,17 +37,17 @@ public final class RandomRunsTest {
         slow = new SlowTongue();
         int calls = 0;
         while (calls < CALLS) {
-            if (run % 7 != 0 && (calls == 0 || random.nextInt(150) == 0)) {
-                calls += layAnew(run);
-            } else {
+            String text = run % 7 != 0 && (calls == 0 || random.nextInt(150) == 0) ? drawnText() : "";
+            if (text.isEmpty() || calls + text.length() + MOST_AROUND > CALLS) {
                 drawnCall(run);
                 calls++;
+            } else {
+                calls += layAnew(run, random.nextInt(4) == 0 ? spoilt(text) : text);
             }
         }
     }
 
-    private int layAnew(int run) {
-        String text = random.nextInt(4) == 0 ? spoilt(drawnText()) : drawnText();
+    private int layAnew(int run, String text) {
         call(run, "wipe");
         for (int i = 0; i < text.length(); i++) {
             call(run, "write", text.charAt(i));
