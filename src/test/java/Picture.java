@@ -63,8 +63,8 @@ final class Picture {
         return seen.toString();
     }
 
-    /** A call of the face by its name. */
-    static int call(LastTongue x, String name, int... numbers) {
+    /** A call of the face by its name, of the class or of the slow reading of the document. */
+    static int call(Object x, String name, int... numbers) {
         Class<?>[] types = new Class<?>[numbers.length];
         Object[] given = new Object[numbers.length];
         for (int i = 0; i < numbers.length; i++) {
@@ -72,7 +72,7 @@ final class Picture {
             given[i] = numbers[i];
         }
         try {
-            Method method = LastTongue.class.getMethod(name, types);
+            Method method = x.getClass().getDeclaredMethod(name, types);
             return (Integer) method.invoke(x, given);
         } catch (NoSuchMethodException | IllegalAccessException e) {
             throw new IllegalStateException(name + " is not of the face", e);

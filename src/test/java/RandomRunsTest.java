@@ -1,3 +1,4 @@
+import java.util.Arrays;
 import java.util.Random;
 
 /** Long runs of drawn calls, the class and the slow reading of the document side by side. */
@@ -167,74 +168,8 @@ public final class RandomRunsTest {
     }
 
     private void call(int run, String name, int... a) {
-        int got = ofClass(name, a);
-        int want = ofSlow(name, a);
-        check.due("run " + run + ": " + name + java.util.Arrays.toString(a), got, want);
-    }
-
-    private int ofClass(String name, int[] a) {
-        switch (name) {
-            case "write": return quick.write(a[0]);
-            case "wipe": return quick.wipe();
-            case "fault": return quick.fault();
-            case "lay": return quick.lay();
-            case "sound": return quick.sound(a[0]);
-            case "wooer": return quick.wooer(a[0], a[1]);
-            case "word": return quick.word(a[0], a[1], a[2]);
-            case "lesson": return quick.lesson(a[0], a[1]);
-            case "pass": return quick.pass(a[0]);
-            case "mend": return quick.mend(a[0], a[1]);
-            case "change": return quick.change(a[0], a[1]);
-            case "undo": return quick.undo();
-            case "behind": return quick.behind(a[0], a[1], a[2]);
-            case "made": return quick.made(a[0]);
-            case "best": return quick.best(a[0], a[1], a[2]);
-            case "mends": return quick.mends(a[0]);
-            case "two": return quick.two(a[0]);
-            case "tests": return quick.tests(a[0]);
-            case "other": return quick.other();
-            case "hear": return quick.hear(a[0], a[1], a[2]);
-            case "forget": return quick.forget();
-            case "which": return quick.which();
-            case "kinds": return quick.kinds(a[0]);
-            case "hail": return quick.hail(a[0], a[1], a[2], a[3]);
-            case "year": return quick.year(a[0], a[1], a[2]);
-            case "keep": return quick.keep();
-            case "back": return quick.back();
-            default: return quick.count(a[0]);
-        }
-    }
-
-    private int ofSlow(String name, int[] a) {
-        switch (name) {
-            case "write": return slow.write(a[0]);
-            case "wipe": return slow.wipe();
-            case "fault": return slow.fault();
-            case "lay": return slow.lay();
-            case "sound": return slow.sound(a[0]);
-            case "wooer": return slow.wooer(a[0], a[1]);
-            case "word": return slow.word(a[0], a[1], a[2]);
-            case "lesson": return slow.lesson(a[0], a[1]);
-            case "pass": return slow.pass(a[0]);
-            case "mend": return slow.mend(a[0], a[1]);
-            case "change": return slow.change(a[0], a[1]);
-            case "undo": return slow.undo();
-            case "behind": return slow.behind(a[0], a[1], a[2]);
-            case "made": return slow.made(a[0]);
-            case "best": return slow.best(a[0], a[1], a[2]);
-            case "mends": return slow.mends(a[0]);
-            case "two": return slow.two(a[0]);
-            case "tests": return slow.tests(a[0]);
-            case "other": return slow.other();
-            case "hear": return slow.hear(a[0], a[1], a[2]);
-            case "forget": return slow.forget();
-            case "which": return slow.which();
-            case "kinds": return slow.kinds(a[0]);
-            case "hail": return slow.hail(a[0], a[1], a[2], a[3]);
-            case "year": return slow.year(a[0], a[1], a[2]);
-            case "keep": return slow.keep();
-            case "back": return slow.back();
-            default: return slow.count(a[0]);
-        }
+        int got = Picture.call(quick, name, a);
+        int want = Picture.call(slow, name, a);
+        check.due("run " + run + ": " + name + Arrays.toString(a), got, want);
     }
 }

@@ -17,6 +17,11 @@ import javax.tools.ToolProvider;
 /** Those rules of LANGUAGE.md that the compiler's own tree of the class can show. */
 public final class SourceTest {
     private static final Set<String> LIBRARY = new TreeSet<>(Arrays.asList("String", "Integer", "Math", "System"));
+    private static final Set<String> USED = new TreeSet<>(Arrays.asList("Integer.bitCount", "Math.max", "Math.min",
+        "System.arraycopy", "script.length", "script.charAt"));
+    private static final Set<String> TYPES = new TreeSet<>(Arrays.asList("int", "long", "boolean", "String", "int[]",
+        "Table", "Table[]", "Text", "Hearsay"));
+    private static final Set<String> MAKERS = new TreeSet<>(Arrays.asList("<init>", "tables"));
     private static final Set<String> GUARDED = new TreeSet<>(Arrays.asList("at", "put", "tableAt", "tables"));
     private static final Check check = new Check();
 
@@ -33,6 +38,8 @@ public final class SourceTest {
         looker.scan(unit, null);
         check.holds("rule 11: classes", looker.classes <= 12);
         looker.depths();
+        looker.names();
+        looker.library();
         check.close("SourceTest");
     }
 
@@ -40,6 +47,9 @@ public final class SourceTest {
         private final CompilationUnitTree unit;
         private final SourcePositions places;
         private final TreeMap<String, TreeSet<String>> calls = new TreeMap<>();
+        private final TreeSet<String> open = new TreeSet<>();
+        private final TreeSet<String> closed = new TreeSet<>();
+        private final TreeSet<String> ofOthers = new TreeSet<>();
         private String method = "";
         int classes = 0;
 
@@ -80,6 +90,8 @@ public final class SourceTest {
             check.holds("rule 11: lines of " + method, lines <= 60);
             check.holds("rule 11: parameters of " + method, tree.getParameters().size() <= 7);
             calls.putIfAbsent(method, new TreeSet<>());
+            boolean isOpen = tree.getModifiers().getFlags().contains(javax.lang.model.element.Modifier.PUBLIC);
+            (isOpen ? open : closed).add(method);
             super.visitMethod(tree, v);
             method = before;
             return null;
@@ -95,7 +107,7 @@ public final class SourceTest {
                 if (!LIBRARY.contains(of)) {
                     called(name);
                 }
-                check.holds("rule 4: " + tree + ", line " + line(tree), !name.endsWith("Exact"));
+                ofOthers.add(of + "." + name);
             }
             return super.visitMethodInvocation(tree, v);
         }
@@ -107,6 +119,30 @@ public final class SourceTest {
         @Override public Void visitArrayAccess(ArrayAccessTree tree, Void v) {
             check.holds("rule 7: an index outside the guarded steps, line " + line(tree), GUARDED.contains(method));
             return super.visitArrayAccess(tree, v);
+        }
+
+        @Override public Void visitVariable(VariableTree tree, Void v) {
+            check.holds("rule 3: the type of " + tree.getName(), TYPES.contains(tree.getType().toString()));
+            return super.visitVariable(tree, v);
+        }
+
+        @Override public Void visitNewClass(NewClassTree tree, Void v) {
+            check.holds("rule 12: an object is made, line " + line(tree), MAKERS.contains(method));
+            check.holds("rule 2: a class without a name, line " + line(tree), tree.getClassBody() == null);
+            return super.visitNewClass(tree, v);
+        }
+
+        @Override public Void visitNewArray(NewArrayTree tree, Void v) {
+            check.holds("rule 12: an array is made, line " + line(tree), MAKERS.contains(method));
+            return super.visitNewArray(tree, v);
+        }
+
+        @Override public Void visitLiteral(LiteralTree tree, Void v) {
+            if (tree.getValue() instanceof String) {
+                boolean plain = ((String) tree.getValue()).chars().allMatch(sign -> sign >= 1 && sign <= 127);
+                check.holds("rule 4: a constant's signs, line " + line(tree), plain);
+            }
+            return super.visitLiteral(tree, v);
         }
 
         @Override public Void visitLambdaExpression(LambdaExpressionTree tree, Void v) {
@@ -158,6 +194,21 @@ public final class SourceTest {
             check.holds("rule 6: a cast among numbers only, line " + line(tree),
                 tree.getType() instanceof PrimitiveTypeTree);
             return super.visitTypeCast(tree, v);
+        }
+
+        void names() {
+            closed.remove("<init>");
+            for (String name : closed) {
+                check.holds("rule 1: " + name + " bears the name of a public one", !open.contains(name));
+            }
+        }
+
+        /** A call by a name and a dot is one of the class's own methods, or stands in rule 4 and is known here. */
+        void library() {
+            for (String call : ofOthers) {
+                String name = call.substring(call.lastIndexOf('.') + 1);
+                check.holds("rule 4: " + call, USED.contains(call) || closed.contains(name));
+            }
         }
 
         /** How deep calls go by name; a method that calls itself counts once. */
